@@ -2,7 +2,10 @@ import java.util.NoSuchElementException;
 import java.util.Random;
 import java.util.function.Supplier;
 
-/** Long runs of drawn calls, each answered by RiverWage and by PlainRiver. The draws are the same each time. */
+/**
+ * Long runs of drawn calls, each answered by RiverWage and by PlainRiver. The draws are the same each
+ * time; an argument says how many runs.
+ */
 public final class AgainstPlainTest {
     private static final int RUNS = 400;
     private static final int CALLS = 512;
@@ -25,7 +28,8 @@ public final class AgainstPlainTest {
     }
 
     public static void main(String[] args) {
-        for (int run = 0; run < RUNS; run++) {
+        int runs = args.length > 0 ? Integer.parseInt(args[0]) : RUNS;
+        for (int run = 0; run < runs; run++) {
             AgainstPlainTest test = new AgainstPlainTest(run);
             for (int i = 0; i < CALLS; i++) {
                 int before = due.wrong();

@@ -225,6 +225,7 @@ public final class LawPromisesTest {
         due.is("silent at the start: no hands", x.world(0, 0, 2, 0), 0);
         due.is("silent at the start: not shut", x.world(0, 0, 2, 1), 20);
         Texts.law(x, 0, "hire 3 ; part 0 ; shut when 1 ;");
+        due.is("shut without opens", x.world(0, 0, 0, 2), 0);
         due.is("shut without opens", x.world(0, 0, 0, 11), 0);
         Texts.law(x, 0, "hire 3 ; part 0 ; opens when 1 ;");
         due.is("opens", x.world(0, 0, 3, 1), 30);
@@ -249,6 +250,9 @@ public final class LawPromisesTest {
         x.call(0, 3, NONE, NONE);
         due.is("fits of a shut one", x.fits(0, 1), 190);
         x.call(0, 3, 0, NONE);
+        x.call(0, 1, 11, 4);
+        due.is("fits of month 1", x.fits(0, 1), 80);
+        x.call(0, 1, 0, NONE);
         x.call(0, 0, 12, 4);
         due.is("month 0 begins it", x.fits(0, 1), 50);
         Texts.law(x, 1, "shut when 1 ;");
@@ -287,6 +291,11 @@ public final class LawPromisesTest {
         Texts.law(x, 0, "hire whole + bank ;");
         rivers(x, 0, 5, 0, 11, 5, 0, 0);
         rivers(x, 0, 5, 11, 0, 0, 0, 5);
+        rivers(x, 0, 1, 0, 11, 1, 0, 0);
+        Texts.law(x, 1, "hire whole + 3 * ( wage = 425 ) ;");
+        rivers(x, 1, 2, 0, 11, 0, 2, 0);
+        Texts.law(x, 1, "hire whole + ( wage = 425 ) - bank ;");
+        rivers(x, 1, 2, 0, 11, 0, 0, 2);
         Texts.law(x, 1, "hire draw * bank ; part 0 ;");
         // those that are silent in a MONTH told aren't COUNTED, so there is no RIVER from 3 to 7 yet
         due.is("no river", x.rivers(1, 5, 3, 7, 0), NONE);

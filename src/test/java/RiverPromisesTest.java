@@ -163,6 +163,7 @@ public final class RiverPromisesTest {
         due.is("floor of the last month", x.floor(0, 11, 999, 0), true);
         due.is("the month before it", rate(x, 0, 10), 440);
         due.is("the last", rate(x, 0, 11), 999);
+        due.is("floor 0", x.floor(1, 0, 0, 0), true);
         int[][] wrong = {{-1, 0, 1, 0}, {2, 0, 1, 0}, {0, -1, 1, 0}, {0, 12, 1, 0}, {0, 0, -1, 0}, {0, 0, 1000, 0},
             {0, 0, 1, -100}, {0, 0, 1, 100}};
         for (int[] w : wrong) {
@@ -228,6 +229,8 @@ public final class RiverPromisesTest {
         river(x, 11, 0, NONE, -35, 1);
         river(x, 0, 11, 0, 30, 1);
         river(x, 0, 11, 3, 25, 1);
+        x.kitchen(23, 1, 1, 1, false);
+        river(x, 0, 11, 23, 35, 1);
         x.kitchen(4, 0, 1, 1, false);
         river(x, 0, 11, 4, 35, 1);
         x.call(4, 0, 0, 0);
@@ -376,12 +379,17 @@ public final class RiverPromisesTest {
         due.is("just more", x.next(0, 11), 0);
         x.kitchen(4, 0, 1, 1, false);
         due.is("by how many are on the bank", x.next(0, 11), 3);
+        x.call(3, 11, 1, 0);
+        x.kitchen(0, 0, 425, 29, true);
+        due.is("in one of both months", x.next(0, 11), 2);
         due.is("next same", x.next(4, 4), NONE);
         due.is("next month", x.next(-1, 4), NONE);
         due.is("next month", x.next(4, 12), NONE);
         RiverWage y = new RiverWage();
+        y.kitchen(5, 1, 1, 0, false);
+        due.is("bank 1 alone", y.next(0, 1), NONE);
         y.kitchen(5, 0, 1, 0, false);
-        due.is("one bank alone", y.next(0, 1), NONE);
+        due.is("bank 0 alone", y.next(0, 1), NONE);
         y.kitchen(7, 1, 1, 0, false);
         due.is("most 0", y.next(0, 1), 5);
         y.kitchen(7, 1, 1, 1, false);
@@ -427,6 +435,9 @@ public final class RiverPromisesTest {
         choosing(x, 2, -25, 1, 50, 1);
         choosing(x, 3, 20, 3, 80, 3);
         due.throwsNone("too few", () -> x.choosing(0, 1, 4, 0));
+        x.kitchen(3, 1, 400, 50, false);
+        x.call(2, 1, 0, NONE);
+        due.throwsNone("too few on bank 0", () -> x.choosing(0, 1, 3, 0));
         due.throwsNone("k 0", () -> x.choosing(0, 1, 0, 0));
         due.throwsNone("k 13", () -> x.choosing(0, 1, 13, 0));
         due.throwsNone("choosing same", () -> x.choosing(1, 1, 1, 0));
@@ -455,6 +466,8 @@ public final class RiverPromisesTest {
         RiverWage x = fourKitchens();
         odds(x, 0, 11, 1, 3);
         RiverWage y = new RiverWage();
+        addChanges(y, 1, 0, 5);
+        due.is("odds of bank 1 alone", y.odds(0, 1, 0), NONE);
         addChanges(y, 0, 0, 5);
         due.is("odds of one bank", y.odds(0, 1, 0), NONE);
         addChanges(y, 1, 1, 0, 1, 2, 3);
@@ -467,6 +480,8 @@ public final class RiverPromisesTest {
         odds(y, 0, 1, 2, 5);
         addChanges(y, 1, 1, 5, 5, 5, 5);
         odds(y, 0, 1, 1, 1);
+        addChanges(y, 1, 1, 6, 9, 9, 9);
+        odds(y, 0, 1, 1, 5);
         due.is("odds same", y.odds(0, 0, 0), NONE);
         due.is("odds month", y.odds(-1, 0, 0), NONE);
         due.is("odds month", y.odds(0, 12, 0), NONE);
@@ -479,6 +494,8 @@ public final class RiverPromisesTest {
         addChanges(z, 1, 14, 0);
         due.is("odds of 15", z.odds(0, 1, 0), NONE);
         due.is("odds of 15", z.odds(0, 1, 1), NONE);
+        z.kitchen(14, 0, 1, 1, false);
+        due.is("odds of 15, 8 on bank 0", z.odds(0, 1, 0), NONE);
         z.call(14, 0, 0, NONE);
         odds(z, 0, 1, 1, 1716);
     }

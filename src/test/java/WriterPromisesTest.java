@@ -79,9 +79,15 @@ public final class WriterPromisesTest {
         takes(x, "silent = 8", 0, 0, 0, 1);
         takes(x, "shut = 2", 0, 0, 0, 1);
         takes(x, "bound", 1, 0, 1, 0);
+        takes(x, "bound = 1", 1, 0, 1, 0);
         takes(x, "number = 2", 0, 0, 1, 0);
         takes(x, "hands = 120", 1, 0, 1, 0);
         takes(x, "0 - number", 0, 1, 1, 1);
+        x.kitchen(4, 0, 1, 1, false);
+        takes(x, "silent = 12 and shut = 0", 0, 0, 0, 0, 1);
+        x.call(4, 0, NONE, NONE);
+        x.call(4, 11, NONE, NONE);
+        takes(x, "silent = 10 and shut = 2", 0, 0, 0, 0, 1);
         takesBy(x, "take when bound ; to 5 ;", 0, 0, 0, 0);
         takesBy(x, "take when hands = 140 ; from 11 ;", 1, 0, 0, 0);
         takesBy(x, "take when hands = 100 ; tenths 0 ;", 1, 0, 0, 0);
@@ -89,7 +95,7 @@ public final class WriterPromisesTest {
         takesBy(x, "take when 1 ; from 4 ; to 4 ;", 1, 1, 1, 1);
         x.tenths(10);
         takes(x, "hands = 140", 1, 0, 0, 0);
-        due.is("takes not told", x.takes(0, 4), NONE);
+        due.is("takes not told", x.takes(0, 5), NONE);
         due.is("takes no kitchen", x.takes(0, -1), NONE);
         due.is("takes no kitchen", x.takes(0, 24), NONE);
         due.is("takes no writer", x.takes(-1, 0), NONE);
@@ -155,6 +161,12 @@ public final class WriterPromisesTest {
             due.throwsNone("forks of none", () -> x.forks(w));
         }
         RiverWage y = fourKitchens();
+        due.is("the least, before any other", y.forks(3), 10);
+        due.is("a river below all forks", y.river(11, 0, NONE, 0), -35);
+        forks(y, 44, 0, 44, 10, 1, 60, 1);
+        Texts.writer(y, 0, "from 11 ; to 0 ;");
+        due.is("the least of others", y.forks(3), -60);
+        y.writer(0);
         forks(y, 44, 0, 44, 10, 1, 60, 1);
         Texts.writer(y, 0, "take when chosen ; tenths 0 ;");
         Texts.writer(y, 1, "from 11 ; to 0 ;");
@@ -273,6 +285,10 @@ public final class WriterPromisesTest {
         lots(x, 1, 2, 3);
         lots(x, 2, 1, 1);
         due.is("fewer than k", x.lots(0, 1, 3, 0), NONE);
+        x.call(0, 1, 0, NONE);
+        x.call(1, 1, 0, NONE);
+        due.is("fewer than k on bank 0", x.lots(0, 1, 2, 0), NONE);
+        RiverPromisesTest.addChanges(x, 0, 0, 1, 2, 3);
         RiverPromisesTest.addChanges(x, 1, 3, 1, 3);
         lots(x, 1, 1, 3);
         lots(x, 2, 1, 3);
@@ -435,6 +451,26 @@ public final class WriterPromisesTest {
             y.call(k, 1, 1, 0);
         }
         y.floor(0, 0, 500, 0);
+        where(y, NONE, NONE);
+        y.floor(1, 0, 500, 0);
+        y.floor(0, 1, 501, 0);
+        where(y, 1, 1);
+        y.kitchen(1, 1, 600, 1, false);
+        where(y, 1, 1);
+        y.kitchen(0, 0, 501, 1, false);
+        where(y, NONE, NONE);
+        y.kitchen(0, 0, 1, 1, false);
+        y.kitchen(1, 1, 1, 1, false);
+        y.floor(1, 1, 501, 0);
+        where(y, NONE, NONE);
+        y.floor(1, 1, 502, 0);
+        where(y, 1, 1);
+        // FLOORS that fall: the one that falls by less grows by more
+        y.floor(1, 1, 400, 0);
+        y.floor(0, 1, 499, 0);
+        y.kitchen(1, 1, 450, 1, false);
+        where(y, 1, 1);
+        y.kitchen(0, 0, 499, 1, false);
         where(y, NONE, NONE);
     }
 
