@@ -1533,7 +1533,7 @@ public final class RiverWage {
 
         int valueOf(int line, int[] facts) {
             int size = 0;
-            for (int i = starts[line]; i < ends[line]; i++) {
+            for (int i = starts[line]; i < ends[line] && i < code.length; i++) {
                 int word = code[i];
                 if (word < 0) {
                     size = operate(-word, size);
