@@ -208,11 +208,12 @@ public final class RiverWage {
     }
 
     public long river(int b, int a, int without, int what) throws NoSuchElementException {
-        if (!areTwoMonths(b, a) || !within(without, NONE, KITCHENS - 1) || !isFractionPart(what)) {
+        boolean isWithAll = without == NONE;
+        if (!areTwoMonths(b, a) || !isFractionPart(what) || (!isWithAll && !isToldKitchen(without))) {
             throw new NoSuchElementException();
         }
         fillByCalls(b, a);
-        if (without != NONE) {
+        if (!isWithAll) {
             sides.leaveOut(without);
         }
         if (!sides.meansApart(answer)) {

@@ -229,7 +229,8 @@ final class PlainRiver {
     }
 
     long river(int b, int a, int without, int what) {
-        must(months(b, a) && in(without, -1, 23) && in(what, 0, 1));
+        must(months(b, a) && in(what, 0, 1));
+        must(without == -1 || kitchens.containsKey(without));
         return must(riverOf(b, a, k -> k != without), what);
     }
 

@@ -229,8 +229,14 @@ public final class RiverPromisesTest {
         river(x, 11, 0, NONE, -35, 1);
         river(x, 0, 11, 0, 30, 1);
         river(x, 0, 11, 3, 25, 1);
+        for (int k = 4; k < 24; k++) {
+            int untold = k;
+            due.throwsNone("river without " + k + ", not told", () -> x.river(0, 11, untold, 0));
+            due.throwsNone("river without " + k + ", not told", () -> x.river(0, 11, untold, 1));
+        }
         x.kitchen(23, 1, 1, 1, false);
         river(x, 0, 11, 23, 35, 1);
+        due.throwsNone("river without 4, not told yet", () -> x.river(0, 11, 4, 0));
         x.kitchen(4, 0, 1, 1, false);
         river(x, 0, 11, 4, 35, 1);
         x.call(4, 0, 0, 0);
@@ -250,11 +256,29 @@ public final class RiverPromisesTest {
         due.throwsNone("river without the only one", () -> y.river(0, 1, 0, 0));
         due.throwsNone("river without the only one", () -> y.river(0, 1, 1, 1));
         due.throwsNone("river of silent months", () -> y.river(0, 2, NONE, 0));
+        riverWithoutUntold();
         int[][] wrong = {{0, 0, -1, 0}, {-1, 1, -1, 0}, {0, 12, -1, 0}, {12, 0, -1, 0}, {0, -1, -1, 0}, {0, 1, -2, 0},
             {0, 1, 24, 0}, {0, 1, -1, -1}, {0, 1, -1, 2}};
         for (int[] w : wrong) {
             due.throwsNone("river wrong", () -> y.river(w[0], w[1], w[2], w[3]));
         }
+    }
+
+    /** A KITCHEN moved to the other BANK keeps its CALLS; a number that is no KITCHEN can't be left out. */
+    private static void riverWithoutUntold() {
+        RiverWage x = new RiverWage();
+        x.kitchen(3, 0, 0, 0, false);
+        x.call(3, 6, 0, 0);
+        x.call(3, 3, 0, 0);
+        x.kitchen(3, 1, 0, 0, false);
+        x.kitchen(5, 0, 0, 0, false);
+        x.call(5, 6, 0, 0);
+        x.call(5, 3, 0, 0);
+        river(x, 6, 3, NONE, 0, 1);
+        due.throwsNone("river without 0, not told", () -> x.river(6, 3, 0, 0));
+        due.throwsNone("river without 4, not told", () -> x.river(6, 3, 4, 1));
+        x.kitchen(0, 0, 0, 0, false);
+        river(x, 6, 3, 0, 0, 1);
     }
 
     private static void river(RiverWage x, int b, int a, int without, long above, long below) {
