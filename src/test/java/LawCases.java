@@ -254,6 +254,24 @@ final class LawCases {
         due.is("an end that may stand there", Texts.law(x, 0, "hire 1 ;   "), 0);
     }
 
+    @Says(at = "==== 3.", words = "the end being one at the text's length")
+    static void theEndOfATextIsNotThatOfTheOneBefore(Due due) {
+        RiverWage x = oneKitchen();
+        due.is("a text before", Texts.law(x, 0, "hire 1234 + half + half ;"), 0);
+        due.is("a number at the end", Texts.law(x, 0, "hire 1"), Texts.fault(1, 6));
+        due.is("a text before", Texts.law(x, 0, "hire 1 + half + half ;"), 0);
+        due.is("a word at the end", Texts.law(x, 0, "hire 1 + ha"), Texts.fault(1, 9));
+        due.is("a text before", Texts.law(x, 0, "hire 1          ;"), 0);
+        due.is("blanks at the end", Texts.law(x, 0, "hire 1  "), Texts.fault(1, 8));
+        String[] ends = {"1", "1234", "12345", "hal", "half", "(", " ", "?", "not"};
+        int[] places = {1000, 1000, 995, 997, 1000, 1000, 1000, 999, 1000};
+        for (int i = 0; i < ends.length; i++) {
+            RiverWage y = new RiverWage();
+            String text = "hire " + " ".repeat(995 - ends[i].length()) + ends[i];
+            due.is("'" + ends[i] + "' at the end of a full tape", Texts.law(y, 0, text), Texts.fault(1, places[i]));
+        }
+    }
+
     @Says(at = "==== 3.", words = "of the first token from the left that is wrong the least")
     static void theFirstTokenAndItsLeastKind(Due due) {
         RiverWage x = oneKitchen();

@@ -237,6 +237,14 @@ final class WriterCases {
         for (int what = 0; what < 7; what++) {
             due.is("forks up to 0, " + what, x.forks(what), wants[what]);
         }
+        for (int writer = 1; writer < 4; writer++) {
+            Texts.writer(x, writer, "to 0 ;");
+        }
+        due.isFraction("the least is that of the first of all", x::forks, 3, -50, 3);
+        due.isFraction("the greatest is that of the last", x::forks, 5, 0, 1);
+        Texts.writer(x, 0, "from 11 ; to 0 ;");
+        due.isFraction("the least is that of the last", x::forks, 3, 0, 1);
+        due.isFraction("the greatest is that of the first of all", x::forks, 5, 50, 3);
     }
 
     @Says(at = "==== 5.", words = "Facts: bank, wage, most, chosen (1 or 0)")
