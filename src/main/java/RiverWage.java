@@ -1496,10 +1496,12 @@ public final class RiverWage {
         void copyOf(Script from) {
             code = Arrays.copyOf(from.code, from.length);
             length = from.length;
-            System.arraycopy(from.isThere, 0, isThere, 0, LINES);
-            System.arraycopy(from.starts, 0, starts, 0, LINES);
-            System.arraycopy(from.ends, 0, ends, 0, LINES);
-            System.arraycopy(from.numbers, 0, numbers, 0, LINES);
+            for (int i = 0; i < LINES; i++) {
+                isThere[i] = from.isThere[i];
+                starts[i] = from.starts[i];
+                ends[i] = from.ends[i];
+                numbers[i] = from.numbers[i];
+            }
         }
 
         boolean hasLine(int line) {

@@ -1,4 +1,5 @@
 import com.sun.source.tree.AssertTree;
+import com.sun.source.tree.BinaryTree;
 import com.sun.source.tree.ClassTree;
 import com.sun.source.tree.CompilationUnitTree;
 import com.sun.source.tree.ImportTree;
@@ -7,6 +8,7 @@ import com.sun.source.tree.LambdaExpressionTree;
 import com.sun.source.tree.MemberReferenceTree;
 import com.sun.source.tree.MethodInvocationTree;
 import com.sun.source.tree.MethodTree;
+import com.sun.source.tree.NewClassTree;
 import com.sun.source.tree.ThrowTree;
 import com.sun.source.tree.Tree;
 import com.sun.source.tree.TryTree;
@@ -14,6 +16,7 @@ import com.sun.source.tree.TypeCastTree;
 import com.sun.source.tree.VariableTree;
 import com.sun.source.util.JavacTask;
 import com.sun.source.util.SourcePositions;
+import com.sun.source.util.TreePath;
 import com.sun.source.util.TreePathScanner;
 import com.sun.source.util.Trees;
 import java.io.File;
@@ -33,9 +36,16 @@ import javax.tools.ToolProvider;
 /** Those rules of LANGUAGE.md that can be seen in the tree of the source. */
 public final class RulesTest {
     private static final Due due = new Due("RulesTest");
-    private static final Set<String> LIBRARY = Set.of("java.lang.String", "java.lang.Math", "java.lang.Integer",
-        "java.lang.Long", "java.lang.System", "java.util.Arrays", "java.lang.Object",
-        "java.util.NoSuchElementException");
+    /** Of rule 4 only what the class uses now: what comes anew is to be looked up there. */
+    private static final Set<String> LIBRARY = Set.of("java.lang.String.length()", "java.lang.String.charAt(int)",
+        "java.lang.String.indexOf(int)", "java.lang.Math.abs(int)", "java.lang.Math.abs(long)",
+        "java.lang.Math.max(int,int)", "java.lang.Math.min(int,int)", "java.lang.Integer.compare(int,int)",
+        "java.lang.Integer.bitCount(int)", "java.lang.Long.compare(long,long)", "java.util.Arrays.fill(int[],int)",
+        "java.util.Arrays.copyOf(int[],int)",
+        "java.lang.System.arraycopy(java.lang.Object,int,java.lang.Object,int,int)");
+    /** Types of static fields by rule 5. */
+    private static final Set<String> CONSTANTS = Set.of("int", "long", "boolean", "char", "String", "int[]", "long[]",
+        "char[]", "byte[]");
     private static final Map<Element, Set<Element>> calls = new HashMap<>();
 
     public static void main(String[] args) throws Exception {
@@ -104,6 +114,8 @@ public final class RulesTest {
                     fields += isStatic ? 0 : 1;
                     due.is(field.getName() + " is final if static",
                         !isStatic || field.getModifiers().getFlags().contains(Modifier.FINAL), true);
+                    due.is(field.getName() + " may be static", !isStatic || CONSTANTS.contains(field.getType().toString()),
+                        true);
                 }
                 due.is("no initialiser block", member.getKind() == Tree.Kind.BLOCK, false);
             }
@@ -129,13 +141,38 @@ public final class RulesTest {
             if (called instanceof ExecutableElement) {
                 String owner = called.getEnclosingElement().toString();
                 boolean isOwn = owner.startsWith("RiverWage");
-                due.is(owner + " is in the library or its own", isOwn || LIBRARY.contains(owner), true);
-                due.is(called + " does not end in Exact", called.getSimpleName().toString().endsWith("Exact"), false);
-                if (isOwn && called.getKind() == ElementKind.METHOD) {
+                boolean isConstructor = called.getKind() == ElementKind.CONSTRUCTOR;
+                due.is(owner + "." + called + " is in the library or its own",
+                    isOwn || isConstructor || LIBRARY.contains(owner + "." + called), true);
+                if (isOwn && !isConstructor) {
                     calls.get(methodElement).add(called);
                 }
             }
             return super.visitMethodInvocation(tree, none);
+        }
+
+        @Override
+        public Void visitNewClass(NewClassTree tree, Void none) {
+            String made = tree.getIdentifier().toString();
+            due.is(made + " is a class of its own", made.equals("NoSuchElementException")
+                || trees.getElement(new TreePath(getCurrentPath(), tree.getIdentifier())).toString().startsWith("RiverWage."),
+                true);
+            due.is(made + " has no body", tree.getClassBody() == null, true);
+            return super.visitNewClass(tree, none);
+        }
+
+        @Override
+        public Void visitVariable(VariableTree tree, Void none) {
+            due.is(tree.getName() + " has one dimension", tree.getType() != null && tree.getType().toString().endsWith("[][]"),
+                false);
+            return super.visitVariable(tree, none);
+        }
+
+        @Override
+        public Void visitBinary(BinaryTree tree, Void none) {
+            boolean isText = trees.getTypeMirror(getCurrentPath()).toString().equals("java.lang.String");
+            due.is("texts are not joined by +", isText, false);
+            return super.visitBinary(tree, none);
         }
 
         @Override
